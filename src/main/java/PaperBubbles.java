@@ -958,6 +958,7 @@ public final class PaperBubbles {
 
         Law(int use, boolean remembers) {
             names = use == MOVED ? "apm" : "arc";
+            // What holds without a text stands as one from the start: a, and for MOVED a/2.
             steps[0] = -1;
             length = 1;
             if (use == MOVED) {

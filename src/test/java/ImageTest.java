@@ -118,6 +118,12 @@ public final class ImageTest {
         x.set(0, 0, 50);
         x.restore();
         due.is("in place of the one ahead", x.ofCell(0, 0), 40);
+        x.tell(40 - 5);
+        x.image();
+        x.check();
+        x.tell(7);
+        x.restore();
+        due.is("the numbers that waited", x.check(), 0);
         // without a text again
         PaperBubbles y = new PaperBubbles();
         y.image();

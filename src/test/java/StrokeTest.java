@@ -216,6 +216,10 @@ public final class StrokeTest {
         due.is("days(31)", x.days(31), Due.BEYOND);
         due.is("nothing changed", x.ofCell(0, 0), 50);
         due.is("z stays", x.count(11), 1);
+        x.image();
+        due.is("days(9)", x.days(9) >= 0 ? 1 : 0, 1);
+        due.is("NIGHT", x.count(5), 999);
+        due.is("NIGHT again", x.restore(), 990);
         due.is("nights(9)", x.nights(9), 5);
         due.is("NIGHT", x.count(5), 999);
         due.is("nights(1)", x.nights(1), Due.STATE);

@@ -71,6 +71,14 @@ public final class ThoughtTest {
         due.is("a full wall", x.bubbles(), 1);
         due.is("a full wall", x.biggest(0), 12 * 99);
         due.is("a full wall", x.biggest(1), 0);
+        x.wall(1, 1);
+        x.set(0, 0, 1);
+        due.is("AIR 1", x.bubbles(), 1);
+        due.is("AIR 1", x.biggest(0), 1);
+        due.is("AIR 1", x.count(6), 1);
+        due.is("AIR 1", x.lamp(1), 1);
+        x.set(0, 1, 0);
+        due.is("AIR 1", x.never(), 1);
         x.wall(5, 5);
         // a spiral
         String spiral = "1111100001111011000111111";
