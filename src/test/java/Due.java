@@ -7,6 +7,7 @@ final class Due {
     static final int KIND = -1000000005;
 
     private final String test;
+    private String sentence = "";
     private int asked;
     private int wrong;
 
@@ -14,11 +15,16 @@ final class Due {
         this.test = test;
     }
 
+    /** What a promise (0: the Terms) says of the rows that follow; it is told with each answer that is not due. */
+    void says(int promise, String words) {
+        sentence = promise == 0 ? " (Terms: " + words + ")" : " (promise " + promise + ": " + words + ")";
+    }
+
     void is(String call, long got, long want) {
         asked++;
         if (got != want) {
             wrong++;
-            System.out.println(test + ": " + call + " answered " + got + ", due is " + want);
+            System.out.println(test + ": " + call + " answered " + got + ", due is " + want + sentence);
         }
     }
 

@@ -1,34 +1,40 @@
 import java.util.Random;
 
-/** Random runs of calls: the program's answers against the Model's. */
+/** Random runs of calls, each on a new object: the program's answers against the Model's. */
 public final class ModelTest {
     private static final String SIGNS = "||&&<=>++--**/%!!(())";
+    // An object is used for at most 512 calls: no step makes more than those that are left then.
+    private static final int MOST_CALLS = 512;
+    private static final int MOST_CALLS_OF_A_STEP = 130;
     private final Random random;
     private final PaperBubbles x = new PaperBubbles();
     private final Model y = new Model();
     private final StringBuilder calls = new StringBuilder();
     private int cells = 16;
     private int dear;
+    private int made;
 
     private ModelTest(long seed) {
         random = new Random(seed);
     }
 
     public static void main(String[] args) {
-        int runs = args.length > 0 ? Integer.parseInt(args[0]) : 600;
+        int runs = args.length > 0 ? Integer.parseInt(args[0]) : 2500;
         long asked = 0;
         for (int run = 0; run < runs; run++) {
             ModelTest test = new ModelTest(run);
             if (!test.begin(run)) {
                 System.exit(1);
             }
-            for (int call = 0; call < 480; call++) {
-                if (!test.call()) {
-                    System.out.println("ModelTest: run " + run + test.calls);
-                    System.exit(1);
-                }
-                asked++;
+            boolean fine = true;
+            while (fine && test.made <= MOST_CALLS - 2 * MOST_CALLS_OF_A_STEP) {
+                fine = test.call();
             }
+            if (!fine || !test.looks()) {
+                System.out.println("ModelTest: run " + run + test.calls);
+                System.exit(1);
+            }
+            asked += test.made;
         }
         System.out.println("ModelTest: " + asked + " answers are as the Model's");
     }
@@ -49,6 +55,7 @@ public final class ModelTest {
     }
 
     private boolean same(String call, int got, int want) {
+        made++;
         calls.append("\n  ").append(call).append(" answered ").append(got);
         if (got != want) {
             calls.append(", the Model ").append(want);
@@ -305,6 +312,7 @@ public final class ModelTest {
             fine &= same("stroke", x.stroke(tool, cell, way), y.stroke(tool, cell, way));
             fine &= same("sheet", x.sheet(sheet, 8, cells), y.sheet(sheet, 8, cells));
             for (int i = 0; i < cells; i++) {
+                made++;
                 fine &= same("put", x.put(sheet, i, x.ofCell(i, 0)), y.put(sheet, i, y.ofCell(i, 0)));
             }
             fine &= same("restore()", x.restore(), y.restore());
